@@ -1288,7 +1288,7 @@ public final class PairedViews {
         /** Always true: an hour can go by whatever is. */
         boolean passHour() {
             for (int t = 0; t < land.things; t++) {
-                if (isThere(t) && !hasBit(lookedAt, t)) {
+                if (!hasBit(gone | lookedAt, t)) {
                     solid[t] = Math.max(0, solid[t] - land.thins[t]);
                 }
             }
@@ -1493,6 +1493,7 @@ public final class PairedViews {
         final Scene trial;
         final int[] row;
         final int[] best;
+        Country searched;
         int mostThings;
         int mostSolid;
         int fewestLooks;
@@ -1505,9 +1506,15 @@ public final class PairedViews {
             trial = new Scene(empty);
             row = new int[Country.MOST_EYES];
             best = new int[Country.MOST_EYES];
+            searched = null;
         }
 
+        /** A COUNTRY never changes once told, and is often asked for COUPLE by COUPLE: it is searched but once. */
         void search(Country land) {
+            if (land == searched) {
+                return;
+            }
+            searched = land;
             mostThings = NONE;
             mostSolid = NONE;
             fewestLooks = NONE;
@@ -1528,7 +1535,7 @@ public final class PairedViews {
             }
             Scene next = all.scenes[couple + 1];
             for (int t = 0; t < scene.land.things; t++) {
-                if (scene.isThere(t) && !hasBit(scene.lookedAt, t)) {
+                if (!hasBit(scene.gone | scene.lookedAt, t)) {
                     next.copy(scene);
                     next.look(couple, t);
                     all.row[couple] = t;
@@ -1546,7 +1553,7 @@ public final class PairedViews {
             int stay = Integer.bitCount(trial.there());
             int solid = 0;
             for (int t = 0; t < trial.land.things; t++) {
-                solid += trial.isThere(t) ? trial.solid[t] : 0;
+                solid += hasBit(trial.gone, t) ? 0 : trial.solid[t];
             }
             if (stay > mostThings || stay == mostThings && solid > mostSolid) {
                 mostThings = stay;

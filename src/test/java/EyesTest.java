@@ -49,6 +49,9 @@ final class EyesTest {
         x = Check.with(0, "left 1;left 1;left 1;right 1;right 1;likes 0 1 9;likes 1 1 9;likes 2 0 9;liked 1 1 2;");
         pairs(x, false, 0, 1, NONE);
         pairs(x, true, 0, 1);
+        x = Check.with(0, "left 1;left 1;left 1;right 1;right 1;right 1;likes 0 1 9;likes 1 0 9;likes 2 1 9;liked 1 2 5;");
+        pairs(x, false, 0, 2, 1);
+        pairs(x, true, 0, 2, 1);
         // COUPLES as told do not matter.
         x = Check.with(0, "left 1;left 1;right 1;right 1;couple 0 1;couple 1 0;");
         pairs(x, false, 0, 1);
@@ -89,6 +92,8 @@ final class EyesTest {
         paired("hand 0;left 1;left 1;left 1;right 1;right 1;", 2);
         paired("hand 2;left 4;left 6;left 2;right 4;right 8;right 2;", 3);
         paired("hand 2;left 3;left 1;left 5;right 3;right 7;right 1;", 3);
+        paired("hand 1;left 2;left 4;right 1;right 3;", 2);
+        paired("hand 1;left 4;left 2;right 3;right 1;", 2);
         paired("hand 9;left 1;right 9;right 9;", 1);
         paired("hand 7;left 1;right 9;right 9;", 0);
         paired("left 1;left 1;", 0);

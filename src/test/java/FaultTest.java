@@ -48,6 +48,13 @@ final class FaultTest {
         bad(1, "look 1 100;", 1, 7);
         bad(1, "look 1 " + Check.times(500, "9") + ";", 1, 7);
         bad(1, "hourhour;", 1, 0);
+        bad(1, "hourz;", 1, 0);
+        bad(1, "houra;", 1, 0);
+        bad(1, "hour`;", 1, 4);
+        bad(1, "hour{;", 1, 4);
+        bad(1, "look 1/2;", 1, 6);
+        bad(1, "look 1:2;", 1, 6);
+        bad(1, "words N;", 1, 6);
         bad(1, "hour;hou", 1, 5);
         bad(1, "hour;hour", 1, 9);
         bad(1, "hour;look 1 ", 1, 12);
@@ -166,6 +173,8 @@ final class FaultTest {
     private static void atTheEnd() {
         bad(0, "thing 1 0 0;rests 0 1;", 4, 22);
         bad(0, "thing 1 0 0;rests 1 0; ", 4, 23);
+        bad(0, "rests 0 1;", 4, 10);
+        bad(0, "liked 0 0 0;", 4, 12);
         bad(0, "thing 1 0 0;path 0 1;", 4, 21);
         bad(0, "thing 1 0 0;path 1 0;", 4, 21);
         bad(0, "left 1;couple 0 0;", 4, 18);

@@ -5,6 +5,7 @@ final class HourTest {
     public static void main(String[] args) {
         lasts();
         watch();
+        watchAnew();
         way();
         surest();
         need();
@@ -69,6 +70,24 @@ final class HourTest {
         watched(Check.with(0, "thing 50 1 0;thing 99 0 0;thing 1 0 0;rests 0 2;rests 1 2;left 1;right 2;couple 0 0;hand 0;"), 3, 153, 2);
     }
 
+    /** What was found for one COUNTRY is not answered for another. */
+    private static void watchAnew() {
+        PairedViews x = Check.with(0, "thing 5 1 2;");
+        Check.due("watch the first", x.watch(0, -2), 3);
+        Check.tell(x, 0, NONE, "thing 8 1 2;thing 1 0 1;");
+        Check.due("watch the second", x.watch(1, -2), 6);
+        Check.due("served, the second", x.height(1, 1), NONE);
+        Check.due("watch the first again", x.watch(0, -2), 3);
+        Check.due("served, the first", x.height(0, 1), 0);
+        x.image(0);
+        Check.tell(x, 0, 0, "thing 9 1 2;");
+        Check.due("watch in its place", x.watch(0, -2), 7);
+        x.again(0);
+        Check.due("watch as it was", x.watch(0, -2), 3);
+        Check.tell(x, 0, 0, "thing 9 1 99;");
+        Check.due("watch behind a FAULT", x.watch(0, -2), 3);
+    }
+
     private static void way() {
         PairedViews x = Check.with(0, Check.LAND);
         int[][] want = {{0, 1, NONE, NONE}, {1, 0, NONE, NONE}, {NONE, NONE, 0, NONE}, {2, 1, NONE, 0}};
@@ -121,6 +140,12 @@ final class HourTest {
         Check.due("to GONE", x.way(0, 0, 4, true), NONE);
         Check.due("from GONE", x.way(0, 4, 4, true), NONE);
         Check.due("far", x.way(0, 6, 1, true), 3);
+        x = Check.with(0, "thing 1 0 0;thing 9 0 0;thing 5 0 0;thing 9 9 0;path 0 1;path 1 2;path 2 0;rests 3 2;");
+        Check.due("SOLID 1 is enough", x.way(0, 0, 1, true), 1);
+        Check.due("over what fell in, though SOLID", x.way(0, 0, 2, true), NONE);
+        Check.due("from what fell in, though SOLID", x.way(0, 2, 1, true), NONE);
+        x = Check.with(0, "thing 9 0 0;thing 5 0 0;thing 9 9 0;thing 9 0 0;path 0 1;path 1 3;rests 2 1;");
+        Check.due("no way over what fell in", x.way(0, 0, 3, true), NONE);
         x = Check.with(0, Check.times(8, "thing 40 0 0;") + "path 6 7;path 5 6;path 4 5;path 3 4;path 2 3;path 1 2;path 0 1;");
         Check.due("seven PATHS", x.way(0, 7, 0, true), 40);
         Check.due("seven PATHS back", x.way(0, 0, 7, true), 40);
@@ -223,6 +248,9 @@ final class HourTest {
         x = Check.with(0, Check.times(8, "thing 9 0 0;") + "path 0 7;path 7 1;path 1 6;path 6 2;path 2 5;path 5 3;path 3 4;");
         Check.due("one PART", x.height(0, 2), 1);
         Check.due("of eight", x.height(0, 3), 8);
+        x = Check.with(0, "thing 9 0 0;");
+        Check.due("one THING, one PART", x.height(0, 2), 1);
+        Check.due("of itself", x.height(0, 3), 1);
         x = Check.with(0, Check.times(8, "thing 9 0 0;"));
         Check.due("eight PARTS", x.height(0, 2), 8);
         Check.due("of one", x.height(0, 3), 1);

@@ -73,6 +73,8 @@ final class QuarrelTest {
         tell("looked 0 1;looked 1 1;looked 2 3;shimmers 1;still 3;looked 0 5;", 5);
         tell("looked 0 7;looked 1 6;looked 2 5;looked 1 5;", 6);
         tell("looked 0 7;", 7);
+        tell("looked 0 0;", 0);
+        tell("looked 0 2;looked 1 2;looked 2 2;looked 3 2;", 2);
         tell("looked 0 0;looked 1 0;looked 2 4;looked 3 2;", 2);
         tell("looked 0 0;shimmers 0;still 0;", NONE);
         tell("looked 0 0;shimmers 1;", NONE);

@@ -6,6 +6,7 @@ final class TapeTest {
         newObject();
         feedAndEnd();
         text();
+        apart();
         fault();
         count();
         images();
@@ -83,6 +84,25 @@ final class TapeTest {
         Check.due("place then", x.fault(1), NONE);
     }
 
+    /** Sorts are kept apart, and nothing of one text is left for the next. */
+    private static void apart() {
+        PairedViews x = new PairedViews();
+        for (int i = 0; i < 2; i++) {
+            Check.due("eight THINGS", Check.tell(x, 0, NONE, Check.times(8, "thing 1 1 1;") + "left 1;left 1;left 1;"), i);
+            Check.due("40 DEEDS", Check.tell(x, 1, NONE, Check.times(40, "hour;")), i);
+            Check.due("8 VIEWS", Check.tell(x, 2, NONE, Check.times(8, "left 1;")), i);
+            Check.due("16 FACTS", Check.tell(x, 3, NONE, Check.times(16, "still 1;")), i);
+        }
+        Check.due("year -1", x.deed(-1, NONE, 0), -2);
+        Check.due("sights -1", x.view(-1, NONE, 0), -2);
+        Check.due("quarrels -1", x.fact(-1, NONE, 0), -2);
+        Check.due("year 2", x.deed(2, NONE, 0), -2);
+        Check.due("sights 2", x.view(2, NONE, 0), -2);
+        Check.due("quarrels 2", x.fact(2, NONE, 0), -2);
+        Check.due("country 2", x.country(2, 0), -2);
+        Check.due("country -1", x.country(-1, 0), -2);
+    }
+
     private static void fault() {
         PairedViews x = new PairedViews();
         Check.due("path 3 3", Check.tell(x, 0, NONE, "path 3 3;"), NONE);
@@ -146,11 +166,11 @@ final class TapeTest {
         Check.tell(x, 3, NONE, "still 9;");
         Check.tape(x, "hour;hour;");
         x.image(0);
-        x.feed(0, 0, 0, 0, 0);
-        Check.tell(x, 0, 0, "");
-        Check.tell(x, 1, 0, "");
-        Check.tell(x, 2, 0, "");
-        Check.tell(x, 3, 0, "");
+        x.end(0);
+        for (int sort = 0; sort < 4; sort++) {
+            Check.due("another text", x.text(sort, 0), 0);
+            Check.due("a further text", x.text(sort, NONE), 1);
+        }
         Check.tape(x, "something other, and longer");
         Check.due("again", x.again(0), true);
         Check.due("FAULT", x.fault(0), 2);

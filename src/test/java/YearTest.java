@@ -110,6 +110,7 @@ final class YearTest {
         till("peace 2;", 0);
         till("mirror 4;", 0);
         till("mirror 3;mirror 3;", 2);
+        Check.due("two FORGED", Check.with(Check.LAND, "mirror 3;mirror 0;").state(0, 0, 2, 3), 9);
         till("hour;mirror 3;", 1);
         PairedViews x = Check.with(Check.LAND, "look 0 0;look 0 1;hour;");
         Check.due("state at END", x.state(0, 0, 1, 10), 29);
@@ -169,6 +170,9 @@ final class YearTest {
         Check.due("BUSIEST of none", x.after(0, 0, 2), NONE);
         Check.tell(x, 1, 0, "look 1 1;hour;look 0 1;hour;look 0 1;hour;look 1 1;hour;look 1 1;");
         Check.due("BUSIEST by most", x.after(0, 0, 2), 1);
+        Check.tell(x, 1, NONE, "look 0 1;hour;look 1 1;hour;look 1 1;");
+        Check.due("BUSIEST, once more", x.after(0, 0, 2), 1);
+        Check.due("BUSIEST of the other YEAR", x.after(0, 1, 2), 1);
         Check.tell(x, 1, 0, "hour;hour;hour;hour;hour;hour;");
         Check.due("FIRST: the fifth hour", x.after(0, 0, 1), 4);
         Check.due("LOST one", x.after(0, 0, 0), 1);
@@ -188,6 +192,10 @@ final class YearTest {
             Check.due("drawn 5, 9 times, " + due[0], x.drawn(0, 5, 9, due[0]), due[1]);
         }
         Check.due("drawn 5, 8 times, looks", x.drawn(0, 5, 8, 4), 3);
+        // The first number below 8 is 2, still a look: by COUPLE 0, by COUPLE 1, both at THING 2.
+        Check.due("drawn 8 once", x.drawn(0, 8, 1, 12), 18);
+        Check.due("drawn 13 once", x.drawn(0, 13, 1, 12), 20);
+        Check.due("drawn 13 once, a GIANT", x.drawn(0, 13, 1, 22), 6);
         Check.due("drawn 0 times", x.drawn(0, 7, 0, 13), 6);
         Check.due("n -1", x.drawn(0, 1, -1, 0), -2);
         Check.due("n 61", x.drawn(0, 1, 61, 0), -2);
