@@ -1062,8 +1062,10 @@ public final class PairedViews {
                 case LIKES:
                     Country.like(land.likes, first, second, third);
                     break;
-                default:
+                case LIKED:
                     Country.like(land.liked, first, second, third);
+                    break;
+                default:
                     break;
             }
         }
