@@ -54,13 +54,16 @@ public final class PairedViews {
     }
 
     public int text(int sort, int at) {
+        // The tape is taken by every call, also by one that reads no text.
+        int length = told.length;
+        told.length = 0;
         told.faultFound = 0;
         told.faultPlace = NONE;
         int slot = told.slotFor(sort, at);
         if (slot < 0) {
             return NO_SUCH;
         }
-        reader.read(told.tape, told.length, sort);
+        reader.read(told.tape, length, sort);
         if (reader.faultFound == 0 && sort == 0) {
             Country land = reader.toCountry();
             if (reader.faultFound == 0) {
@@ -69,7 +72,6 @@ public final class PairedViews {
         } else if (reader.faultFound == 0) {
             told.putRows(sort, slot, reader.toRows());
         }
-        told.length = 0;
         told.faultFound = reader.faultFound;
         told.faultPlace = reader.faultPlace;
         return reader.faultFound == 0 ? slot : NONE;

@@ -6,6 +6,7 @@ final class TapeTest {
         newObject();
         feedAndEnd();
         text();
+        takenUnread();
         apart();
         fault();
         count();
@@ -65,9 +66,9 @@ final class TapeTest {
         Check.due("one DEED", x.deed(0, NONE, 0), 1);
         Check.due("a further one", Check.tell(x, 1, NONE, "hour;hour;hour;"), 1);
         Check.due("a third", Check.tell(x, 1, NONE, "hour;hour;"), -2);
-        Check.due("not read: the tape is as it was", x.end(10), 10);
         Check.due("fault of none", x.fault(0), 0);
-        Check.due("taken now", x.text(1, 0), 0);
+        Check.due("DEEDS of 0 as told", x.deed(0, NONE, 0), 1);
+        Check.due("in the place of 0", Check.tell(x, 1, 0, "hour;hour;"), 0);
         Check.due("DEEDS of 0", x.deed(0, NONE, 0), 2);
         Check.due("DEEDS of 1", x.deed(1, NONE, 0), 3);
         Check.due("no place 2", x.text(1, 2), -2);
@@ -82,6 +83,27 @@ final class TapeTest {
         Check.due("-2 strikes the FAULT", x.text(1, NONE), -2);
         Check.due("fault then", x.fault(0), 0);
         Check.due("place then", x.fault(1), NONE);
+    }
+
+    /** The tape is empty behind every text(), also where -2 says that none was read. */
+    private static void takenUnread() {
+        PairedViews x = new PairedViews();
+        x.text(1, NONE);
+        x.text(1, NONE);
+        int[][] unread = {{0, 0}, {0, 1}, {0, -2}, {1, NONE}, {1, 2}, {1, Integer.MAX_VALUE}, {2, Integer.MIN_VALUE},
+            {4, NONE}, {4, 0}, {-1, NONE}, {Integer.MAX_VALUE, NONE}, {Integer.MIN_VALUE, 0}};
+        for (int[] call : unread) {
+            String name = "text(" + call[0] + ", " + call[1] + ")";
+            Check.due("a FAULT ahead of " + name, Check.tell(x, 1, 0, "hours;"), NONE);
+            Check.due("feed ahead of " + name, x.feed(0, 0, 0, 0, 0), 20);
+            Check.due(name, x.text(call[0], call[1]), -2);
+            Check.due("FAULT behind " + name, x.fault(0), 0);
+            Check.due("place behind " + name, x.fault(1), NONE);
+            Check.due("end(1) behind " + name, x.end(1), NONE);
+            Check.due("feed behind " + name, x.feed(0, 0, 0, 0, 0), 20);
+            Check.due("end(0) behind " + name, x.end(0), 0);
+            Check.due("YEARS behind " + name, x.count(1), 2);
+        }
     }
 
     /** Sorts are kept apart, and nothing of one text is left for the next. */

@@ -37,7 +37,7 @@ final class WildTest {
         int calls = 0;
         while (calls < CALLS) {
             if (chance.nextInt(6) == 0) {
-                calls += 4 + tellSomething(x, chance);
+                calls += 5 + tellSomething(x, chance);
             } else {
                 sum = 31 * sum + ask(x, chance);
                 calls++;
@@ -59,6 +59,7 @@ final class WildTest {
         Check.due("fault of " + text, x.fault(0), want[0]);
         Check.due("place of " + text, x.fault(1), want[1]);
         Check.due("text " + text, got, !may ? -2 : want[0] != 0 ? -1 : at < 0 ? size : at);
+        Check.due("tape behind " + text, x.end(1), -1);
         return text.length() / 20;
     }
 
