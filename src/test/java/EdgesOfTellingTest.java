@@ -23,6 +23,9 @@ final class EdgesOfTellingTest {
         tokensAsLongAsTheyGo();
         numbersOfTwoDigits();
         theFirstFaultOfOne();
+        lettersOfWords();
+        everyLine();
+        everyNumber();
         numbersThatCant();
         oneTooMany();
         toldOfAndNotThere();
@@ -454,14 +457,6 @@ final class EdgesOfTellingTest {
             int word = n > 0 && n < 5 ? 0 : n > 13 && n < 17 ? 13 : n > 20 && n < 24 ? 20 : n;
             fault(0, start, whole ? 0 : 1, whole ? NONE : word);
         }
-        // Any byte instead of the one that ends a line.
-        for (int sign = 0; sign < 256; sign++) {
-            if (sign != ';') {
-                boolean blank = sign == 10 || sign == 32;
-                boolean letter = sign >= 'a' && sign <= 'z';
-                fault(1, "hour" + (char) sign, 1, letter ? 0 : blank ? 5 : 4);
-            }
-        }
         for (int sort = 0; sort < 4; sort++) {
             for (int other = 0; other < 4; other++) {
                 boolean goesOn = sort == other || sort == 0 && other == 2;
@@ -470,6 +465,124 @@ final class EdgesOfTellingTest {
         }
         good(2, "left 1;right 1;");
         fault(2, "left 1;thing 1 1 1;", 1, 7);
+    }
+
+    private static void lettersOfWords() {
+        Check.by("words, rows of letters a .. z");
+        for (int i = 0; i < 4; i++) {
+            for (int sign = 0; sign < 256; sign++) {
+                if (sign != "hour".charAt(i)) {
+                    // Whatever stands there, the first token is none of a YEAR's, or none at all.
+                    boolean blank = sign == 10 || sign == 32;
+                    fault(1, "hour".substring(0, i) + (char) sign + "hour".substring(i + 1) + ";", 1, i == 0 && blank ? 1 : 0);
+                }
+            }
+        }
+        Check.by("; one byte");
+        for (int sign = 0; sign < 256; sign++) {
+            boolean letter = sign >= 'a' && sign <= 'z';
+            boolean blank = sign == 10 || sign == 32;
+            boolean good = sign == ';';
+            fault(1, "hour" + (char) sign, good ? 0 : 1, good ? NONE : letter ? 0 : blank ? 5 : 4);
+        }
+    }
+
+    /** The words of each sort, and how many NUMBERS go with each. */
+    private static final String[][] WORDS = {
+        {"thing", "rests", "path", "couple", "left", "right", "hand", "likes", "liked"},
+        {"look", "words", "peace", "mirror", "hour"},
+        {"straight", "right", "left"},
+        {"looked", "shimmers", "still"}};
+    private static final int[][] NUMBERS = {{3, 2, 2, 2, 1, 1, 1, 3, 3}, {2, 1, 1, 1, 0}, {1, 1, 1}, {2, 1, 1}};
+
+    private static int numbersOf(int sort, String word) {
+        for (int i = 0; i < WORDS[sort].length; i++) {
+            if (WORDS[sort][i].equals(word)) {
+                return NUMBERS[sort][i];
+            }
+        }
+        return NONE;
+    }
+
+    /** Every word in every sort's text, with none to four NUMBERS, ended or not. */
+    private static void everyLine() {
+        Check.by("A COUNTRY's text: {('thing' NUMBER NUMBER NUMBER | ('rests' | 'path' | 'couple') NUMBER NUMBER"
+            + " | ('left' | 'right' | 'hand') NUMBER | ('likes' | 'liked') NUMBER NUMBER NUMBER) ';'}");
+        String ahead = "thing 1 0 0;thing 1 0 0;left 1;left 1;right 1;right 1;";
+        for (int sort = 0; sort < 4; sort++) {
+            for (String[] words : WORDS) {
+                for (String word : words) {
+                    for (int n = 0; n <= 4; n++) {
+                        lineOf(sort, sort == 0 ? ahead : "", word, n);
+                    }
+                }
+            }
+        }
+    }
+
+    private static void lineOf(int sort, String ahead, String word, int n) {
+        String line = ahead + word + " 1 0 1 0".substring(0, 2 * n);
+        int due = numbersOf(sort, word);
+        int start = ahead.length();
+        int place = due < 0 ? start : start + word.length() + (n > due ? 2 * due + 1 : 2 * n);
+        boolean good = due == n;
+        fault(sort, line + ";", good ? 0 : 1, good ? NONE : place);
+        fault(sort, line, 1, due >= 0 && n <= due ? line.length() : place);
+        fault(sort, line + ";;", 1, good ? line.length() + 1 : place);
+    }
+
+    /** Every NUMBER of two digits at every place for one: it is FAULT 2 there, or no FAULT 2. */
+    private static void everyNumber() {
+        Check.by("SOLID, 0 .. 99, WEIGHT, 0 .. 9, THINS, 0 .. 9");
+        everyNumber(0, "thing ", " 0 0;", 0, 99);
+        everyNumber(0, "thing 0 ", " 0;", 0, 9);
+        everyNumber(0, "thing 0 0 ", ";", 0, 9);
+        Check.by("(thing: SOLID, WEIGHT, THINS; rests: a THING, 0 .. 7, on which; path: two THINGS; couple: a LEFT, 0 .. 3, a RIGHT one;"
+            + " left, right: SIGHT; likes: a LEFT one, a RIGHT one, how much; liked: a RIGHT one, a LEFT one, how much)");
+        everyNumber(0, "rests ", " 0;", 0, 7);
+        everyNumber(0, "rests 0 ", ";", 1, 7);
+        everyNumber(0, "path ", " 0;", 0, 7);
+        everyNumber(0, "path 0 ", ";", 1, 7);
+        everyNumber(0, "couple ", " 0;", 0, 3);
+        everyNumber(0, "couple 0 ", ";", 0, 3);
+        everyNumber(0, "left ", ";", 1, 9);
+        everyNumber(0, "right ", ";", 1, 9);
+        everyNumber(0, "hand ", ";", 0, 9);
+        for (String word : new String[] {"likes ", "liked "}) {
+            everyNumber(0, word, " 0 0;", 0, 3);
+            everyNumber(0, word + "0 ", " 0;", 0, 3);
+            everyNumber(0, word + "0 0 ", ";", 0, 9);
+        }
+        Check.by("(look: a COUPLE, 0 .. 3, a THING; words, peace: a COUPLE; mirror: a THING)");
+        everyNumber(1, "look ", " 0;", 0, 3);
+        everyNumber(1, "look 0 ", ";", 0, 7);
+        everyNumber(1, "words ", ";", 0, 3);
+        everyNumber(1, "peace ", ";", 0, 3);
+        everyNumber(1, "mirror ", ";", 0, 7);
+        Check.by("from a COLUMN, 0 .. 9");
+        everyNumber(2, "straight ", ";", 0, 9);
+        everyNumber(2, "right ", ";", 0, 9);
+        everyNumber(2, "left ", ";", 0, 9);
+        Check.by("a COUPLE, 0 .. 3, LOOKED at a THING, 0 .. 7; or a THING SHIMMERS, or is STILL.");
+        everyNumber(3, "looked ", " 0;", 0, 3);
+        everyNumber(3, "looked 0 ", ";", 0, 7);
+        everyNumber(3, "shimmers ", ";", 0, 7);
+        everyNumber(3, "still ", ";", 0, 7);
+    }
+
+    private static void everyNumber(int sort, String ahead, String behind, int least, int most) {
+        for (int n = 0; n < 100; n++) {
+            PairedViews x = new PairedViews();
+            String text = ahead + n + behind;
+            Check.tell(x, sort, NONE, text);
+            // Of rests and path the first NUMBER may be the second one's: that is where the FAULT is then.
+            boolean same = n == 0 && behind.equals(" 0;") && (ahead.equals("rests ") || ahead.equals("path "));
+            boolean fits = n >= least && n <= most && !same;
+            Check.due("FAULT 2 of " + text, x.fault(0) == 2, !fits);
+            if (!fits) {
+                Check.due("place of " + text, x.fault(1), ahead.length() + (same ? 2 : 0));
+            }
+        }
     }
 
     /** A line with one number after the other one too large, or one too small. */

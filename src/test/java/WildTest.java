@@ -27,6 +27,9 @@ final class WildTest {
             Check.due("same calls, same answers", run(new Random(seed)), first);
         }
         Check.due("some answers", sum != 0, true);
+        for (int seed = 0; seed < ROUNDS; seed++) {
+            questionsChangeNothing(new Random(seed));
+        }
         room();
         Check.finish();
     }
@@ -132,6 +135,88 @@ final class WildTest {
             case 27: return x.image(a) ? 1 : 0;
             default: return x.again(a) ? 1 : 0;
         }
+    }
+
+    /** Questions, and calls that are refused, leave all that is told, the tape, the FAULT and the images as they were. */
+    private static void questionsChangeNothing(Random chance) {
+        PairedViews x = new PairedViews();
+        for (int sort = 0; sort < 4; sort++) {
+            Check.tell(x, sort, PairedViews.NONE, textOf(sort, chance));
+            Check.tell(x, sort, PairedViews.NONE, sort == 0 ? Check.LAND : textOf(sort, chance));
+        }
+        x.image(1);
+        Check.tell(x, 1, PairedViews.NONE, "hours;");
+        Check.tape(x, Check.times(590, " "));
+        long before = all(x);
+        for (int i = 0; i < 200; i++) {
+            question(x, chance);
+        }
+        Check.due("questions change nothing", all(x), before);
+    }
+
+    private static void question(PairedViews x, Random chance) {
+        int a = any(chance);
+        switch (chance.nextInt(9)) {
+            case 0: Check.due("feed to 610", x.feed(a, a, a, a, a), -1); break;
+            case 1: Check.due("end of more", x.end(591 + chance.nextInt(99)), -1); break;
+            case 2: Check.due("end below 0", x.end(-1 - chance.nextInt(99)), -1); break;
+            case 3: Check.due("image of no such", x.image(3 + chance.nextInt(99)), false); break;
+            case 4: Check.due("again of no such", x.again(2 * chance.nextInt(2)), false); break;
+            default: askOnly(x, chance);
+        }
+    }
+
+    /** Every call that tells nothing. */
+    private static void askOnly(PairedViews x, Random chance) {
+        int a = any(chance);
+        int b = any(chance);
+        int c = any(chance);
+        boolean flag = chance.nextBoolean();
+        x.fault(a);
+        x.country(a, what(chance));
+        x.deed(a, b, c);
+        x.till(a, b);
+        x.state(a, b, c, what(chance));
+        x.lasts(a, b);
+        x.watch(a, b);
+        x.way(a, b, c, flag);
+        x.married(a, b, flag);
+        x.unhappy(a);
+        x.agree(a, b, c, 3, flag);
+        x.view(a, b, c);
+        x.fits(a, b, what(chance));
+        x.fact(a, b, c);
+        x.words(a, what(chance));
+        x.drawn(a, b, c, what(chance));
+        x.need(a, b, c);
+        x.keystone(a, flag);
+        x.height(a, b);
+        x.meet(a, b, c);
+        x.after(a, b, c);
+        x.wrong(a, b, flag);
+        x.tell(a);
+        x.count(a);
+    }
+
+    /** Answers that show all that is told, as one number. */
+    private static long all(PairedViews x) {
+        long sum = 31 * x.end(590) + x.end(591);
+        sum = 31 * sum + 7 * x.fault(0) + x.fault(1);
+        for (int at = 0; at < 2; at++) {
+            for (int what = 0; what < 180; what++) {
+                sum = 31 * sum + x.country(at, what);
+            }
+            for (int k = -1; k < 40; k++) {
+                for (int what = 0; what < 3; what++) {
+                    sum = 31 * sum + 7 * x.deed(at, k, what) + 5 * x.view(at, k, what) + x.fact(at, k, what);
+                }
+            }
+            sum = 31 * sum + 7 * x.till(at, at) + 5 * x.watch(at, -2) + x.after(at, at, 0);
+        }
+        for (int sort = 0; sort < 4; sort++) {
+            sum = 31 * sum + x.count(sort);
+        }
+        return sum;
     }
 
     /** The dearest run: nothing but texts; the limit is a tenth of the room's 7.3 million elements, four bytes each. */
