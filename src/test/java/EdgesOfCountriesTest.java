@@ -369,6 +369,9 @@ final class EdgesOfCountriesTest {
         // The longer way is the surer one.
         sure("thing 9 0 0;thing 9 0 0;thing 3 0 0;thing 8 0 0;thing 7 0 0;path 0 2;path 2 1;path 0 3;path 3 4;path 4 1;", 0, 1, 7);
         sure("thing 9 0 0;thing 9 0 0;thing 3 0 0;thing 8 0 0;thing 2 0 0;path 0 2;path 2 1;path 0 3;path 3 4;path 4 1;", 0, 1, 3);
+        // All twelve PATHS, the last one, too.
+        sure(Check.times(8, "thing 9 0 0;") + Check.times(11, "path 0 1;") + "path 0 2;", 0, 2, 9);
+        sure(Check.times(8, "thing 9 0 0;") + Check.times(12, "path 0 1;"), 0, 2, NONE);
         Check.by("of ways along PATHS over THINGS that are there, at once");
         // At once: what thins is as SOLID as told.
         sure("thing 9 0 9;thing 4 0 9;thing 9 0 9;path 0 1;path 1 2;", 0, 2, 4);
@@ -405,6 +408,9 @@ final class EdgesOfCountriesTest {
         married("left 1;left 1;right 1;", new int[] {0, NONE}, new int[] {0});
         married("left 1;left 1;right 1;liked 0 1 1;", new int[] {NONE, 0}, new int[] {1});
         married("left 1;left 1;left 1;right 1;liked 0 1 1;liked 0 2 1;", new int[] {NONE, 0, NONE}, new int[] {1});
+        // One who has asked all in vain asks no more, but the others ask on.
+        married("left 1;left 1;left 1;right 1;liked 0 1 5;liked 0 2 9;", new int[] {NONE, NONE, 0}, new int[] {2});
+        married("left 1;left 1;left 1;left 1;right 1;liked 0 1 5;liked 0 2 6;liked 0 3 9;", new int[] {NONE, NONE, NONE, 0}, new int[] {3});
         // It never has one who did not ask, however much it LIKES him.
         married("left 1;left 1;right 1;right 1;likes 1 1 5;liked 0 1 9;", new int[] {0, 1}, new int[] {0, 1});
         // The least of several, though he asks only when another has left him.
@@ -484,6 +490,9 @@ final class EdgesOfCountriesTest {
         unhappy("left 1;right 1;right 1;couple 0 0;likes 0 1 1;", 1);
         unhappy("left 1;right 1;right 1;couple 0 0;liked 1 0 9;", 0);
         unhappy("left 1;left 1;right 1;right 1;couple 0 1;", 1);
+        unhappy(FOUR + "couple 0 0;couple 1 1;", 4);
+        unhappy(FOUR + "couple 0 0;couple 1 1;likes 0 3 9;", 5);
+        unhappy(FOUR + "couple 0 0;couple 1 1;couple 2 2;couple 3 3;", 0);
         unhappy("", 0);
         unhappy("left 1;left 1;", 0);
         unhappy("right 1;right 1;", 0);

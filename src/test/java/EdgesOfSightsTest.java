@@ -276,6 +276,9 @@ final class EdgesOfSightsTest {
         sets("shimmers 0;looked 0 1;");
         sets("still 0;looked 3 1;still 1;looked 2 1;", 0, 1, 2, 3);
         sets("looked 0 0;shimmers 0;still 0;");
+        // All sixteen FACTS, the last one, too.
+        sets(Check.times(15, "looked 0 0;") + "shimmers 0;", 1, 3, 5, 7, 9, 11, 13, 15);
+        sets(Check.times(15, "still 0;") + "looked 0 0;", 0, 2, 4, 6, 8, 10, 12, 14);
         // When it was LOOKED at does not matter, nor how often.
         sets("shimmers 7;looked 2 7;looked 2 7;", 4, 5, 6, 7, 12, 13, 14, 15);
     }

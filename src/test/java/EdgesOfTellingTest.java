@@ -465,6 +465,14 @@ final class EdgesOfTellingTest {
         }
         good(2, "left 1;right 1;");
         fault(2, "left 1;thing 1 1 1;", 1, 7);
+        // Of several the first.
+        fault(1, "hours;hours;", 1, 0);
+        fault(1, "hour;!;!;", 1, 5);
+        fault(1, "hour;words;hour;peace;!", 1, 10);
+        fault(1, "look a b;look 1;", 1, 5);
+        fault(1, "hour 1 2 3;hour;", 1, 5);
+        fault(1, "hour;1;hour;", 1, 5);
+        fault(1, ";hour;", 1, 0);
     }
 
     private static void lettersOfWords() {
@@ -529,6 +537,10 @@ final class EdgesOfTellingTest {
         fault(sort, line + ";", good ? 0 : 1, good ? NONE : place);
         fault(sort, line, 1, due >= 0 && n <= due ? line.length() : place);
         fault(sort, line + ";;", 1, good ? line.length() + 1 : place);
+        // A word where a NUMBER, or the end of the line, is due.
+        boolean goesOn = due >= 0 && n <= due;
+        fault(sort, line + " " + word + ";", 1, goesOn ? line.length() + 1 : place);
+        fault(sort, line + "\n123;", 1, goesOn ? line.length() + 1 : place);
     }
 
     /** Every NUMBER of two digits at every place for one: it is FAULT 2 there, or no FAULT 2. */
