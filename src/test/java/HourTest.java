@@ -104,7 +104,7 @@ final class HourTest {
         Check.due("from 3", x.way(0, 3, 2, false), 3);
         Check.due("from 4, round", x.way(0, 4, 0, false), 2);
         Check.due("from 4 to 2", x.way(0, 4, 2, false), NONE);
-        // Thing 1 is GONE behind the first hour, thing 0 already: nobody can be on it.
+        // Thing 3 is GONE behind the first hour, thing 0 already: nobody can be on it.
         x = Check.with(0, "thing 0 0 0;thing 9 0 0;thing 9 0 0;thing 1 0 1;path 0 1;path 1 2;path 2 3;");
         Check.due("from what is GONE", x.way(0, 0, 1, false), NONE);
         Check.due("on what is GONE", x.way(0, 0, 0, false), NONE);

@@ -1,5 +1,6 @@
 import com.sun.source.tree.AssertTree;
 import com.sun.source.tree.BinaryTree;
+import com.sun.source.tree.BlockTree;
 import com.sun.source.tree.ClassTree;
 import com.sun.source.tree.CompilationUnitTree;
 import com.sun.source.tree.LambdaExpressionTree;
@@ -30,7 +31,9 @@ import javax.lang.model.element.Element;
 import javax.lang.model.element.ElementKind;
 import javax.lang.model.element.Modifier;
 import javax.lang.model.element.VariableElement;
+import javax.lang.model.type.ArrayType;
 import javax.lang.model.type.TypeKind;
+import javax.lang.model.type.TypeMirror;
 import javax.tools.JavaCompiler;
 import javax.tools.StandardJavaFileManager;
 import javax.tools.ToolProvider;
@@ -41,6 +44,7 @@ final class LanguageTest extends TreePathScanner<Void, Void> {
         + " agree view fits fact words drawn need keystone height meet after wrong tell count image again NONE";
     private static final Set<String> LIBRARY = Set.of("String.length", "String.charAt", "Math.abs", "Math.min", "Math.max",
         "Integer.bitCount", "System.arraycopy", "Object.<init>");
+    private static final Set<String> NUMBERS = Set.of("int", "long", "short", "byte", "char", "boolean");
     /** The one method that calls itself; its depth is an argument. */
     private static final String RECURSIVE = "Watchers.tryFrom";
     private static final int MOST_LINES = 60;
@@ -145,6 +149,7 @@ final class LanguageTest extends TreePathScanner<Void, Void> {
         Element element = trees.getElement(getCurrentPath());
         Set<Modifier> flags = element.getModifiers();
         boolean outer = element.getEnclosingElement().getKind() == ElementKind.PACKAGE;
+        rule("no local class", outer || getCurrentPath().getParentPath().getLeaf() instanceof ClassTree, tree);
         rule("classes", outer ? flags.contains(Modifier.PUBLIC) && flags.contains(Modifier.FINAL)
             : flags.contains(Modifier.STATIC) && !flags.contains(Modifier.PUBLIC) && !flags.contains(Modifier.PROTECTED), tree);
         int fields = 0;
@@ -192,9 +197,23 @@ final class LanguageTest extends TreePathScanner<Void, Void> {
                 && tree.getInitializer() instanceof NewArrayTree;
             rule("static fields are constants", flags.contains(Modifier.FINAL) && (constant || writtenOut), tree);
         }
-        boolean number = element.asType().getKind().isPrimitive();
-        rule("no floating numbers needed", !number || element.asType().getKind() != TypeKind.DOUBLE, tree);
+        rule("a type that the rules have: " + element.asType(), isListed(element.asType()), tree);
         return super.visitVariable(tree, none);
+    }
+
+    /** Of the types that rule 3 has, those that the class needs: no floating numbers, lists or arrays of arrays. */
+    private static boolean isListed(TypeMirror type) {
+        if (type instanceof ArrayType row) {
+            return row.getComponentType().getKind() != TypeKind.ARRAY && isListed(row.getComponentType());
+        }
+        String name = type.toString();
+        return NUMBERS.contains(name) || name.equals("java.lang.String") || name.startsWith("PairedViews");
+    }
+
+    @Override
+    public Void visitBlock(BlockTree tree, Void none) {
+        rule("no initialiser block", !(getCurrentPath().getParentPath().getLeaf() instanceof ClassTree), tree);
+        return super.visitBlock(tree, none);
     }
 
     @Override
